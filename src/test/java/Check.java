@@ -21,6 +21,13 @@ final class Check {
         }
     }
 
+    void is(String what, String got, String want) {
+        checked++;
+        if (!got.equals(want)) {
+            tell(what + " answered " + got + ", due is " + want);
+        }
+    }
+
     /** The very class: an ArrayIndexOutOfBoundsException is no IndexOutOfBoundsException here. */
     void fails(String what, Class<? extends RuntimeException> want, Call call) {
         checked++;
