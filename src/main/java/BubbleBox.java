@@ -15,7 +15,7 @@ public final class BubbleBox {
     private static final int FILES = 8;
     private static final int PAGE_BYTES = 8;
     private static final int FIRST_FILE_PAGE = 40;
-    /** Page 0 belongs to an image and so never to a file: links and windows may use it for "none". */
+    /** Page 0 belongs to an image, never to a file: links and windows may use it for "none". */
     private static final int NO_PAGE = 0;
 
     private static final int IMAGE_PAGES = 20;
@@ -249,7 +249,7 @@ public final class BubbleBox {
         requests.forget();
     }
 
-    /** Nothing else need be forgotten when power ends: only mount() leads on, and that forgets all. */
+    /** Nothing else need be forgotten here: only mount() leads on from off, and that forgets. */
     private void usePower() {
         if (transfersLeft == 0) {
             condition = OFF;
@@ -457,7 +457,7 @@ public final class BubbleBox {
         }
     }
 
-    /** The files, the chains of their pages, and which pages are in files now and in the current image. */
+    /** The files, their chains, and which pages are in files: now, and in the current image. */
     private static final class Directory {
         private final Entry[] entries;
         private final int[] behind;
@@ -572,7 +572,9 @@ public final class BubbleBox {
         }
 
         private void holdOwned() {
-            System.arraycopy(owned, 0, held, 0, PAGES);
+            for (int page = 0; page < PAGES; page++) {
+                held[page] = owned[page];
+            }
         }
 
         private void putInto(Image image, int turn) {

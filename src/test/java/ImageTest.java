@@ -20,7 +20,10 @@ public final class ImageTest {
         syncSteps();
         syncHoldsAndReleases();
         imageOfNoFiles();
+        imageAfterFormatAgain();
         imageBytes();
+        imageAfterTruncate();
+        imageAfterPagesMoved();
         CHECK.end();
     }
 
@@ -294,11 +297,19 @@ public final class ImageTest {
     }
 
     private static void imageOfNoFiles() {
+        checkImage(Boxes.formatted(), 0, new int[160]);
+    }
+
+    private static void imageAfterFormatAgain() {
         BubbleBox box = Boxes.formatted();
-        for (int page = 0; page < 19; page++) {
-            CHECK.is("page " + page, Boxes.onChip(box, page), 0);
-        }
-        CHECK.is("page 19: the sum is 1", Boxes.onChip(box, 19), 1L << 48);
+        box.create(1);
+        Boxes.fill(box, 0, 30, 0);
+        box.sync();
+        box.format();
+        checkImage(box, 0, new int[160]);
+        box.mount();
+        box.format();
+        checkImage(box, 0, new int[160]);
     }
 
     private static void imageBytes() {
@@ -331,16 +342,66 @@ public final class ImageTest {
         for (int page = 44; page < 81; page++) {
             due[57 + page] = page + 1;
         }
+        checkImage(box, 1, due);
+    }
+
+    private static void imageAfterTruncate() {
+        BubbleBox box = Boxes.formatted();
+        box.create(1);
+        box.create(2);
+        Boxes.fill(box, 0, 40, 0);
+        Boxes.fill(box, 1, 10, 0);
+        box.truncate(0, 9);
+        box.truncate(1, 0);
+        box.sync();
+        int[] due = new int[160];
+        due[0] = 1;
+        due[1] = 1;
+        due[5] = 40;
+        due[6] = 9;
+        due[8] = 2;
+        due[57 + 40] = 41;
+        checkImage(box, 1, due);
+    }
+
+    private static void imageAfterPagesMoved() {
+        BubbleBox box = Boxes.formatted();
+        box.create(1);
+        Boxes.fill(box, 0, 10, 0);
+        box.sync();
+        box.append(0, 10);
+        box.sync();
+        box.mount();
+        box.append(0, 11);
+        Boxes.fill(box, 0, 5, 0);
+        box.sync();
+        CHECK.is("pageOf(0, 2)", box.pageOf(0, 2), 43);
+        int[] due = new int[160];
+        due[0] = 3;
+        due[1] = 1;
+        due[5] = 40;
+        due[6] = 17;
+        due[57 + 40] = 41;
+        due[57 + 41] = 43;
+        checkImage(box, 1, due);
+        box.sync();
+        due[0] = 4;
+        checkImage(box, 0, due);
+    }
+
+    /** The sum is put behind the bytes that are due. */
+    private static void checkImage(BubbleBox box, int image, int[] due) {
         int sum = 1;
         for (int n = 0; n < 158; n++) {
             sum += due[n];
         }
         due[158] = sum % 256;
         due[159] = sum / 256;
-        for (int n = 0; n < 160; n += 8) {
-            long bits = Boxes.onChip(box, 20 + n / 8);
+        for (int k = 0; k < 20; k++) {
+            long bits = Boxes.onChip(box, 20 * image + k);
             for (int j = 0; j < 8; j++) {
-                CHECK.is("byte " + (n + j) + " of image 1", bits >>> 8 * j & 255, due[n + j]);
+                int n = 8 * k + j;
+                CHECK.is("byte " + n + " of image " + image, bits >>> 8 * j & 255, due[n]);
             }
         }
     }

@@ -93,7 +93,8 @@ public final class ModelTest {
             same("byteAt(" + file + ", " + i + ")", () -> box.byteAt(file, i),
                     () -> model.byteAt(file, i));
         } else if (kind < 15) {
-            int n = random.nextInt(3) == 0 ? between(-1, Math.max(length, 0) + 1) : between(length - 9, length);
+            int least = random.nextInt(3) == 0 ? -1 : length - 9;
+            int n = between(least, Math.max(length, 0) + random.nextInt(2));
             same("truncate(" + file + ", " + n + ")", () -> box.truncate(file, n),
                     () -> model.truncate(file, n));
         } else if (kind < 16) {
@@ -133,9 +134,25 @@ public final class ModelTest {
             int loop = between(-1, 69);
             same("stuck(" + loop + ", 0)", () -> none(() -> box.stuck(loop, 0)),
                     () -> none(() -> model.stuck(loop, 0)));
+        } else if (kind < 9) {
+            readImages();
         } else {
             append();
         }
+    }
+
+    private void readImages() {
+        same("serve()", box::serve, model::serve);
+        for (int page = 0; page < 40; page++) {
+            read(page);
+        }
+    }
+
+    private void read(int page) {
+        same("queue(" + page + ")", () -> box.queue(page, false, 0),
+                () -> model.queue(page, false, 0));
+        same("serve()", box::serve, model::serve);
+        same("served(0)", () -> box.served(0), () -> model.served(0));
     }
 
     private void append() {
