@@ -9,16 +9,52 @@ final class Boxes {
         return box;
     }
 
-    /** With no transfer left, and one asked for. */
+    /** With file 0, named 1, of the bytes 1, 2, ...; not synced. */
+    static BubbleBox withFile(int bytes) {
+        BubbleBox box = formatted();
+        box.create(1);
+        fill(box, 0, bytes, 1);
+        return box;
+    }
+
+    /** Formatted, and then without power in sync(). */
     static BubbleBox off() {
         BubbleBox box = formatted();
+        loseAllPower(box);
+        return box;
+    }
+
+    /** On, with a map, but without a valid image, since format() had no power for its sync(). */
+    static BubbleBox withoutImage() {
+        BubbleBox box = new BubbleBox();
         box.power(0);
+        try {
+            box.format();
+        } catch (IllegalStateException e) {
+            box.mount();
+            return box;
+        }
+        throw new AssertionError("format() without power did not fail");
+    }
+
+    /** New, off, and on without a valid image: all the ways not to be mounted. */
+    static BubbleBox[] notMounted() {
+        return new BubbleBox[] {new BubbleBox(), off(), withoutImage()};
+    }
+
+    static void loseAllPower(BubbleBox box) {
+        losePower(box, 0);
+    }
+
+    /** In sync(), which must need more transfers than these. */
+    static void losePower(BubbleBox box, int transfers) {
+        box.power(transfers);
         try {
             box.sync();
         } catch (IllegalStateException e) {
-            return box;
+            return;
         }
-        throw new AssertionError("sync() without power did not fail");
+        throw new AssertionError("sync() with power for " + transfers + " did not fail");
     }
 
     /** The bytes first, first + 1, ... behind a file's. */
@@ -33,5 +69,10 @@ final class Boxes {
         int request = box.queue(page, false, 0);
         box.serve();
         return box.served(request);
+    }
+
+    /** So that P is there. */
+    static void turnTo(BubbleBox box, int page) {
+        onChip(box, page);
     }
 }

@@ -34,7 +34,7 @@ public final class FaceTest {
     private static Set<String> seenMethods() {
         Set<String> seen = new TreeSet<>();
         for (Method method : BubbleBox.class.getDeclaredMethods()) {
-            if (!Modifier.isPrivate(method.getModifiers())) {
+            if (!Modifier.isPrivate(method.getModifiers()) && !method.isSynthetic()) {
                 seen.add(signature(method));
             }
         }
@@ -54,24 +54,28 @@ public final class FaceTest {
 
     private static void fieldsAreHidden(Check check) {
         for (Field field : BubbleBox.class.getDeclaredFields()) {
-            boolean hidden = Modifier.isPrivate(field.getModifiers());
+            boolean hidden = Modifier.isPrivate(field.getModifiers()) || field.isSynthetic();
             check.is("private " + field.getName(), hidden, !field.getName().equals("NONE"));
         }
     }
 
+    /** Rule 1 of LANGUAGE.md, in the classes inside too. */
     private static void hiddenNamesDiffer(Check check) {
         Set<String> names = new TreeSet<>();
         for (String method : METHODS) {
             names.add(method.substring(method.indexOf(' ') + 1, method.indexOf('(')));
         }
-        for (Method method : BubbleBox.class.getDeclaredMethods()) {
-            if (Modifier.isPrivate(method.getModifiers())) {
-                check.is("own name " + method.getName(), names.contains(method.getName()), false);
-            }
-        }
+        hiddenNamesDiffer(check, names, BubbleBox.class);
         for (Class<?> inside : BubbleBox.class.getDeclaredClasses()) {
-            check.is("static " + inside, Modifier.isStatic(inside.getModifiers()), true);
-            for (Method method : inside.getDeclaredMethods()) {
+            boolean seen = (inside.getModifiers() & (Modifier.PUBLIC | Modifier.PROTECTED)) != 0;
+            check.is("seen from outside " + inside, seen, false);
+            hiddenNamesDiffer(check, names, inside);
+        }
+    }
+
+    private static void hiddenNamesDiffer(Check check, Set<String> names, Class<?> where) {
+        for (Method method : where.getDeclaredMethods()) {
+            if (Modifier.isPrivate(method.getModifiers()) && !method.isSynthetic()) {
                 check.is("own name " + method.getName(), names.contains(method.getName()), false);
             }
         }
